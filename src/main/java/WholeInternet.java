@@ -95,6 +95,7 @@ public final class WholeInternet {
     private final int[] reach = new int[MOST_BOXES];
 
     public WholeInternet() {
+        for (int n = 0; n < MOST_NETS; n++) nets[n] = new Net(n);
         // one more than may be under way: the one that arrives just now
         for (int i = 0; i <= MOST_FLYING; i++) {
             Parcel parcel = new Parcel();
@@ -105,7 +106,7 @@ public final class WholeInternet {
 
     // ---------------------------------------------------------------- making the internetwork
 
-    public int box(boolean router) {
+    public int box(boolean router) throws IllegalStateException {
         if (boxCount >= MOST_BOXES) throw new IllegalStateException("there are 16 boxes");
         boxes[boxCount] = new Box(boxCount, router);
         boxCount++;
@@ -113,17 +114,18 @@ public final class WholeInternet {
         return boxCount - 1;
     }
 
-    public int net(int largest, int delay) {
+    public int net(int largest, int delay) throws IllegalArgumentException, IllegalStateException {
         if (largest < 100 || largest > 1500) throw new IllegalArgumentException("largest is not 100 .. 1500");
         if (delay < 1 || delay > 50) throw new IllegalArgumentException("delay is not 1 .. 50");
         if (netCount >= MOST_NETS) throw new IllegalStateException("there are 24 nets");
-        nets[netCount] = new Net(netCount, largest, delay);
+        nets[netCount].largest = largest;
+        nets[netCount].delay = delay;
         netCount++;
         changeWorld();
         return netCount - 1;
     }
 
-    public int join(int box, int net) {
+    public int join(int box, int net) throws IllegalArgumentException, IllegalStateException {
         Box joining = boxOf(box);
         Net joined = netOf(net);
         if (joining == null || joined == null) throw new IllegalArgumentException("no such box or net");
@@ -140,7 +142,7 @@ public final class WholeInternet {
         return port.address;
     }
 
-    public int cost(int router, int net, int cost) {
+    public int cost(int router, int net, int cost) throws IllegalArgumentException {
         Box box = routerOf(router);
         if (box == null || netOf(net) == null) throw new IllegalArgumentException("no such router or net");
         Port port = box.portOn(net);
@@ -154,7 +156,7 @@ public final class WholeInternet {
         return before;
     }
 
-    public boolean link(int net, boolean up) {
+    public boolean link(int net, boolean up) throws IllegalArgumentException {
         Net linked = netOf(net);
         if (linked == null) throw new IllegalArgumentException("no such net");
         if (linked.up == up) return false;
@@ -164,7 +166,7 @@ public final class WholeInternet {
         return true;
     }
 
-    public int fates(int net, long fates, int n) {
+    public int fates(int net, long fates, int n) throws IllegalArgumentException, IllegalStateException {
         Net scheduled = netOf(net);
         if (scheduled == null) throw new IllegalArgumentException("no such net");
         if (n < 1 || n > 32) throw new IllegalArgumentException("n is not 1 .. 32");
@@ -173,7 +175,7 @@ public final class WholeInternet {
         return scheduled.fateCount;
     }
 
-    public int run(int ticks) {
+    public int run(int ticks) throws IllegalArgumentException, IllegalStateException {
         if (ticks < 1 || ticks > 1000) throw new IllegalArgumentException("ticks is not 1 .. 1000");
         if (now + ticks > LAST_TICK) throw new IllegalStateException("the time would be more than 400000");
         for (int i = 0; i < ticks; i++) {
@@ -192,7 +194,7 @@ public final class WholeInternet {
 
     // ---------------------------------------------------------------- the owner's calls
 
-    public int listen(int host, int port, int backlog) {
+    public int listen(int host, int port, int backlog) throws IllegalArgumentException, IllegalStateException {
         Box box = hostOf(host);
         if (box == null) throw new IllegalArgumentException("no such host");
         if (port < 1 || port >= FIRST_OWN_PORT_NUMBER) throw new IllegalArgumentException("port is not 1 .. 49999");
@@ -205,7 +207,7 @@ public final class WholeInternet {
         return free;
     }
 
-    public int open(int host, int address, int port) {
+    public int open(int host, int address, int port) throws IllegalArgumentException, IllegalStateException {
         Box box = hostOf(host);
         if (box == null) throw new IllegalArgumentException("no such host");
         if (port < 1 || port > LAST_PORT_NUMBER) throw new IllegalArgumentException("port is not 1 .. 65535");
@@ -225,7 +227,7 @@ public final class WholeInternet {
         return free;
     }
 
-    public int accept(int host, int door) {
+    public int accept(int host, int door) throws IllegalArgumentException, IllegalStateException {
         Box box = hostOf(host);
         Door listener = doorOf(host, door);
         if (box == null || listener == null) throw new IllegalArgumentException("no such host or door");
@@ -240,7 +242,7 @@ public final class WholeInternet {
         return NONE;
     }
 
-    public int write(int host, int door, long bytes, int n) {
+    public int write(int host, int door, long bytes, int n) throws IllegalArgumentException, IllegalStateException {
         Door written = doorOf(host, door);
         if (written == null) throw new IllegalArgumentException("no such host or door");
         if (n < 1 || n > 8) throw new IllegalArgumentException("n is not 1 .. 8");
@@ -253,7 +255,7 @@ public final class WholeInternet {
         return taken;
     }
 
-    public int fill(int host, int door, int seed, int step, int n) {
+    public int fill(int host, int door, int seed, int step, int n) throws IllegalArgumentException, IllegalStateException {
         Door written = doorOf(host, door);
         if (written == null) throw new IllegalArgumentException("no such host or door");
         if (n < 1 || n > ROW) throw new IllegalArgumentException("n is not 1 .. 2048");
@@ -265,13 +267,13 @@ public final class WholeInternet {
         return taken;
     }
 
-    public int read(int host, int door) {
+    public int read(int host, int door) throws IllegalArgumentException, IllegalStateException {
         Door asked = readableDoor(host, door);
         if (asked.end.in.length == 0) return asked.end.in.over ? OVER : NONE;
         return takeByte(asked);
     }
 
-    public int readAll(int host, int door, int n) {
+    public int readAll(int host, int door, int n) throws IllegalArgumentException, IllegalStateException {
         if (doorOf(host, door) == null) throw new IllegalArgumentException("no such host or door");
         if (n < 1 || n > ROW) throw new IllegalArgumentException("n is not 1 .. 2048");
         Door asked = readableDoor(host, door);
@@ -280,7 +282,7 @@ public final class WholeInternet {
         return told;
     }
 
-    public void close(int host, int door) {
+    public void close(int host, int door) throws IllegalArgumentException, IllegalStateException {
         Box box = hostOf(host);
         Door closed = doorOf(host, door);
         if (box == null || closed == null) throw new IllegalArgumentException("no such host or door");
@@ -299,7 +301,7 @@ public final class WholeInternet {
         stir();
     }
 
-    public void abort(int host, int door) {
+    public void abort(int host, int door) throws IllegalArgumentException, IllegalStateException {
         Door aborted = doorOf(host, door);
         if (aborted == null) throw new IllegalArgumentException("no such host or door");
         if (aborted.use != WITH_END) throw new IllegalStateException("the door is free or listens");
@@ -308,7 +310,7 @@ public final class WholeInternet {
         stir();
     }
 
-    public int door(int host, int door, int what) {
+    public int door(int host, int door, int what) throws IllegalArgumentException {
         Door asked = doorOf(host, door);
         if (asked == null) throw new IllegalArgumentException("no such host or door");
         if (what < 0 || what > 6) throw new IllegalArgumentException("what is not 0 .. 6");
@@ -324,14 +326,14 @@ public final class WholeInternet {
         }
     }
 
-    public void drain(int host, int door, boolean on) {
+    public void drain(int host, int door, boolean on) throws IllegalArgumentException, IllegalStateException {
         Door drained = doorOf(host, door);
         if (drained == null) throw new IllegalArgumentException("no such host or door");
         if (drained.use != WITH_END) throw new IllegalStateException("the door is free or listens");
         drained.drains = on;
     }
 
-    public int drained(int host, int door) {
+    public int drained(int host, int door) throws IllegalArgumentException {
         Door asked = doorOf(host, door);
         if (asked == null) throw new IllegalArgumentException("no such host or door");
         return asked.drainTold;
@@ -339,7 +341,7 @@ public final class WholeInternet {
 
     // ---------------------------------------------------------------- looking at the internetwork
 
-    public int way(int router, int net, int what) {
+    public int way(int router, int net, int what) throws IllegalArgumentException {
         Box box = routerOf(router);
         if (box == null || netOf(net) == null) throw new IllegalArgumentException("no such router or net");
         if (what < 0 || what > 2) throw new IllegalArgumentException("what is not 0 .. 2");
@@ -348,7 +350,7 @@ public final class WholeInternet {
         return what == 1 ? base.wayNext[net] : base.wayOver[net];
     }
 
-    public boolean friends(int router, int other, int net) {
+    public boolean friends(int router, int other, int net) throws IllegalArgumentException {
         Box box = routerOf(router);
         if (box == null || routerOf(other) == null) throw new IllegalArgumentException("no such router");
         if (netOf(net) == null) throw new IllegalArgumentException("no such net");
@@ -356,14 +358,14 @@ public final class WholeInternet {
         return port != null && box.router.friend[keyOf(port, other)];
     }
 
-    public int advert(int router, int of) {
+    public int advert(int router, int of) throws IllegalArgumentException {
         Box box = routerOf(router);
         if (box == null || routerOf(of) == null) throw new IllegalArgumentException("no such router");
         int number = box.router.base.number[of];
         return number == 0 ? NONE : number;
     }
 
-    public int count(int which, int what) {
+    public int count(int which, int what) throws IllegalArgumentException {
         if (what < 0 || what > 7) throw new IllegalArgumentException("what is not 0 .. 7");
         if (what < 2) {
             Net net = netOf(which);
@@ -383,7 +385,7 @@ public final class WholeInternet {
         return now;
     }
 
-    public int shouldCost(int router, int net) {
+    public int shouldCost(int router, int net) throws IllegalArgumentException {
         Box box = routerOf(router);
         Net goal = netOf(net);
         if (box == null || goal == null) throw new IllegalArgumentException("no such router or net");
@@ -1143,8 +1145,8 @@ public final class WholeInternet {
     /** A net with its stations and its schedule. */
     private static final class Net {
         private final int number;
-        private final int largest;
-        private final int delay;
+        private int largest;
+        private int delay;
         private boolean up = true;
         private final byte[] schedule = new byte[MOST_FATES];
         private int firstFate;
@@ -1154,10 +1156,8 @@ public final class WholeInternet {
         private int putCount;
         private int arrivedCount;
 
-        private Net(int number, int largest, int delay) {
+        private Net(int number) {
             this.number = number;
-            this.largest = largest;
-            this.delay = delay;
         }
 
         private void addFate(int fate) {
@@ -1378,7 +1378,7 @@ public final class WholeInternet {
         }
 
         private int size() {
-            int size = Math.max(0, whole - SEGMENT_HEAD);
+            int size = whole > SEGMENT_HEAD ? whole - SEGMENT_HEAD : 0;
             if ((flags & OPEN) != 0) size++;
             return (flags & LAST) != 0 ? size + 1 : size;
         }
